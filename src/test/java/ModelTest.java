@@ -4,6 +4,7 @@ import java.util.Random;
 public final class ModelTest {
   private static final int RUNS = 500;
   private static final int CALLS = 512;
+  private static final int PAIRS = 3000;
   private static int wrong = 0;
 
   private final Random random;
@@ -22,6 +23,13 @@ public final class ModelTest {
       if (!run.goesWell()) {
         wrong++;
         System.out.println("seed " + seed + ":\n" + run.log);
+      }
+    }
+    for (int seed = 1; seed <= PAIRS && wrong < 3; seed++) {
+      ModelTest pair = new ModelTest(-seed);
+      if (!pair.tellsAllOfTwo()) {
+        wrong++;
+        System.out.println("pair " + seed + ":\n" + pair.log);
       }
     }
     System.out.println(wrong == 0 ? "the class and the model agree" : wrong + " runs differ");
@@ -51,6 +59,44 @@ public final class ModelTest {
       if (!same("type(" + (int) letter + ")", real.type(letter), model.type(letter))) return false;
     }
     return same("arcs()", real.arcs(), model.arcs());
+  }
+
+  /** Two arcs, and all that is told of their meetings and spots. */
+  private boolean tellsAllOfTwo() {
+    int reach = 1 + random.nextInt(9);
+    int[] one = arc(reach, null);
+    for (char letter : (item(one) + item(arc(reach, one))).toCharArray()) {
+      if (!same("type(" + letter + ")", real.type(letter), model.type(letter))) return false;
+    }
+    if (!same("arcs()", real.arcs(), model.arcs())) return false;
+    for (int what = 0; what < 3; what++) if (!meetsAgree(0, 1, what) || !meetsAgree(1, 0, what)) return false;
+    int all = Math.min(12, model.meets(0, 1, 0) + model.meets(0, 1, 1));
+    for (int k = 0; k <= all; k++) {
+      for (int what = 0; what < 3; what++) if (!meetingsAgree(0, 1, k, what)) return false;
+    }
+    int spots = model.meets(0, 1, 2);
+    for (int k = 0; k <= spots; k++) {
+      for (int what = 0; what < 6; what++) if (!spotsAgree(0, 1, k, what)) return false;
+    }
+    return true;
+  }
+
+  private static String item(int[] arc) {
+    StringBuilder item = new StringBuilder("a");
+    for (int number : arc) item.append(number).append(' ');
+    return item.append(';').toString();
+  }
+
+  private boolean meetsAgree(int p, int q, int what) {
+    return same("meets(" + p + ", " + q + ", " + what + ")", real.meets(p, q, what), model.meets(p, q, what));
+  }
+
+  private boolean meetingsAgree(int p, int q, int k, int what) {
+    return same("meeting(" + p + ", " + q + ", " + k + ", " + what + ")", real.meeting(p, q, k, what), model.meeting(p, q, k, what));
+  }
+
+  private boolean spotsAgree(int p, int q, int k, int what) {
+    return same("spot(" + p + ", " + q + ", " + k + ", " + what + ")", real.spot(p, q, k, what), model.spot(p, q, k, what));
   }
 
   private String text() {
@@ -170,12 +216,9 @@ public final class ModelTest {
   private boolean meetings() {
     int p = arcNumber(), q = arcNumber(), what = upTo(2), k = upTo(random.nextInt(4) == 0 ? 101 : 8);
     switch (random.nextInt(4)) {
-      case 0: return same("meets(" + p + ", " + q + ", " + what + ")", real.meets(p, q, what), model.meets(p, q, what));
-      case 1:
-        return same("meeting(" + p + ", " + q + ", " + k + ", " + what + ")", real.meeting(p, q, k, what), model.meeting(p, q, k, what));
-      default:
-        int of = upTo(5), few = upTo(random.nextInt(3) + 1);
-        return same("spot(" + p + ", " + q + ", " + few + ", " + of + ")", real.spot(p, q, few, of), model.spot(p, q, few, of));
+      case 0: return meetsAgree(p, q, what);
+      case 1: return meetingsAgree(p, q, k, what);
+      default: return spotsAgree(p, q, upTo(random.nextInt(3) + 1), upTo(5));
     }
   }
 

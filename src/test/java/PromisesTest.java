@@ -295,6 +295,8 @@ public final class PromisesTest {
   private static void shifts() {
     promise = "7";
     CurveMeetings x = told(LEVEL + UPRIGHT);
+    due("point 0 alone beyond", x.shifts(0, -4, 0), BAD);
+    due("point 3 alone beyond", x.shifts(1, 0, 4), BAD);
     due("shifts(0, 3, -9)", x.shifts(0, 3, -9), 1);
     due("x of 0", x.point(0, 1, 0, 0), -3 * 32768);
     due("x of 3", x.point(0, 1, 3, 0), 9 * 32768);
@@ -351,13 +353,14 @@ public final class PromisesTest {
     due("undo()", x.undo(), STATE);
     // Twelve are done, ten are known.
     for (int k = 1; k <= 12; k++) {
-      due("moves", x.moves(k % 2, 0, -9, k - 4), 1);
+      due("moves", x.moves(k % 3 == 0 ? 1 : 0, 0, -9, k - 4), 1);
       due("count(3)", x.count(3), Math.min(k, 10));
     }
     for (int k = 9; k >= 0; k--) due("undo()", x.undo(), k);
     due("undo()", x.undo(), STATE);
     due("the second stays", x.point(0, 1, 0, 1), -2 * 32768);
-    due("the first stays", x.point(1, 1, 0, 1), -3 * 32768);
+    due("the other is as it was", x.point(1, 1, 0, 0), 0);
+    due("the other is as it was", x.point(1, 1, 0, 1), -6 * 32768);
     // It is told of the arcs as they are.
     CurveMeetings y = told(LEVEL + UPRIGHT);
     y.shifts(1, 9, 0);
@@ -459,7 +462,9 @@ public final class PromisesTest {
 
   private static void goes() {
     promise = "13";
-    CurveMeetings x = told("a0 5 1 5 1 5 2 5;a0 0 3 1 2 -1 0 -1;");
+    CurveMeetings x = told("a0 5 1 5 1 5 2 5;a0 0 3 1 2 -1 0 -1;a0 0 -1 0 1 1 0 -2;");
+    due("back, on, back", x.goes(2, 1, 0), 3);
+    due("not, on, back", x.goes(2, 1, 1), 3);
     due("onward", x.goes(0, 1, 0), 1);
     due("not at all", x.goes(0, 1, 1), 0);
     due("to and fro", x.goes(1, 1, 0), 3);
@@ -468,7 +473,7 @@ public final class PromisesTest {
     due("its end", x.goes(1, 63, 0), 2);
     x.reverses(0);
     due("backward", x.goes(0, 1, 0), 2);
-    int[][] bad = {{2, 1, 0}, {-1, 1, 0}, {0, 0, 0}, {0, 64, 0}, {0, 1, -1}, {0, 1, 2}, {HIGH, LOW, LOW}};
+    int[][] bad = {{3, 1, 0}, {-1, 1, 0}, {0, 0, 0}, {0, 64, 0}, {0, 1, -1}, {0, 1, 2}, {HIGH, LOW, LOW}};
     for (int[] b : bad) due("goes, bad", x.goes(b[0], b[1], b[2]), BAD);
   }
 
@@ -629,6 +634,21 @@ public final class PromisesTest {
     CurveMeetings eleven = told("a-2 -4 -5 0 6 7 -1 -5;a-2 -3 -5 0 6 7 -1 -5;");
     due("how many", eleven.spot(0, 1, 1, 1), 11);
     due("kind", eleven.spot(0, 1, 1, 0), 2);
+    mixedTurns("a3 4 6 2 6 4 2 8;a4 3 4 3 8 3 1 6;", 1, 0);
+    mixedTurns("a4 1 2 5 -6 1 2 5;a6 1 1 4 2 2 2 3;", 1, 0, 2);
+    mixedTurns("a0 0 1 1 1 0 0 0;a0 -1 0 1 3 0 -1 1;", 0, 1, 0, 2);
+  }
+
+  /** All meetings are doubts of one spot, whose turns are not all the same. */
+  private static void mixedTurns(String text, int... turns) {
+    CurveMeetings x = told(text);
+    for (int k = 0; k < turns.length; k++) {
+      int turn = x.turn(0, x.meeting(0, 1, k, 0), 1, x.meeting(0, 1, k, 1));
+      due("turn of meeting " + k + " of " + text, turn, turns[k]);
+    }
+    due("spots of " + text, x.meets(0, 1, 2), 1);
+    due("how many", x.spot(0, 1, 0, 1), turns.length);
+    due("kind", x.spot(0, 1, 0, 0), 2);
   }
 
   private static void busiest() {
