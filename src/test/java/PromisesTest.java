@@ -1,4 +1,4 @@
-/** Every promise of the document by cases that were worked out by hand. */
+/** Every promise by cases worked out by hand; the few whose answers are the Model's say so. */
 public final class PromisesTest {
   private static final int BAD = -1, STATE = -2, FULL = -3, OVER = -4, NONE = -9, NO = -2147483647;
   private static final int LOW = Integer.MIN_VALUE, HIGH = Integer.MAX_VALUE;
@@ -258,7 +258,7 @@ public final class PromisesTest {
         due("point(0, " + node + ", " + i + ", 0)", x.point(0, node, i, 0), 9216 * (node - 32) + 3072 * i);
       }
     }
-    // y is 9 t t, with t in 32nds 9 by 1024 each; the last 32nd steps by 9 * 63 / 1024.
+    // y is 9 t t: at k 32nds it is k times k times 9 by 1024, which is 288 32768ths.
     due("the end of 32", x.point(0, 32, 3, 1), 288);
     due("the beginning of 63", x.point(0, 63, 0, 1), 288 * 31 * 31);
     due("the end of 63", x.point(0, 63, 3, 1), 294912);
@@ -625,9 +625,9 @@ public final class PromisesTest {
     // End to end in a corner: a doubt with a turn.
     spotIs(told("a-6 0 -4 0 -2 0 0 0;a0 0 0 2 0 4 0 6;"), 0, 1, 0, 1, 1, 31, 32, 0, 1);
     spotIs(told("a-6 0 -4 0 -2 0 0 0;a0 0 0 -2 0 -4 0 -6;"), 0, 1, 0, 1, 1, 31, 32, 0, 1);
-    // 11 are fewer than 12: the last 26 by 3 32nds less one, which reach into the next ones.
+    // The second begins 80 by 3 32nds behind: 26 to 31 of the first overlap its 0 to 5. 11 are fewer than 12.
     spotIs(told("a-6 0 -4 0 -2 0 0 0;a-1 0 1 0 3 0 5 0;"), 0, 1, 0, 2, 11, 26, 32, 0, 6);
-    // These have 12 doubts in one spot by the Model.
+    // These have 12 and 11 doubts in one spot by the Model.
     CurveMeetings twelve = told("a8 -2 1 9 -6 -8 5 -1;a8 -2 1 9 -6 -8 6 -1;");
     due("how many", twelve.spot(0, 1, 0, 1), 12);
     due("kind", twelve.spot(0, 1, 0, 0), 3);
@@ -639,7 +639,7 @@ public final class PromisesTest {
     mixedTurns("a0 0 1 1 1 0 0 0;a0 -1 0 1 3 0 -1 1;", 0, 1, 0, 2);
   }
 
-  /** All meetings are doubts of one spot, whose turns are not all the same. */
+  /** All meetings are doubts of one spot, by the Model, whose turns are not all the same. */
   private static void mixedTurns(String text, int... turns) {
     CurveMeetings x = told(text);
     for (int k = 0; k < turns.length; k++) {
