@@ -850,7 +850,8 @@ public final class CurveMeetings {
             spotOf[first] = spots;
             gathered[0] = first;
             int members = 1;
-            for (int k = 0; k < members && !certain[first]; k++) {
+            // members grows on the way, but never beyond size.
+            for (int k = 0; k < size && k < members && !certain[first]; k++) {
                 for (int other = first + 1; other < size; other++) {
                     if (spotOf[other] == NOBODY && hangTogether(gathered[k], other)) {
                         spotOf[other] = spots;
