@@ -54,6 +54,8 @@ public final class ModelTest {
 
   private boolean tellsArcs() {
     String text = random.nextInt(4) == 0 ? spoilt(text()) : text();
+    // Behind its 512th call an object may answer anything: a text that would go there is not told.
+    if (calls + text.length() + 2 > CALLS) return anyCall();
     if (!same("clear()", real.clear(), model.clear())) return false;
     for (char letter : text.toCharArray()) {
       if (!same("type(" + (int) letter + ")", real.type(letter), model.type(letter))) return false;
